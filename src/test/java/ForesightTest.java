@@ -65,6 +65,17 @@ public final class ForesightTest {
         x.grade(0, 2);
         answers(x, 4, 0, new int[] {1, 200, 0, 0, 0});
         answers(x, 5, 0, new int[] {2, 19, 3, 300, 34});
+        // Cars that did much before, and cars that stand in the way.
+        OreRailway y = new OreRailway();
+        Check.type(y, "n;n;l0+9;r0/0;t17;m0;t50;l0+15;r0/2;t9;r1/0;t4;b1/9;t1");
+        y.execute();
+        Check.due("car 0 has heat", 28, () -> y.carOf(0, 5));
+        Check.due("car 0 delivered", 5, () -> y.carOf(0, 7));
+        Check.due("car 0 was fast", 34, () -> y.carOf(0, 9));
+        Check.due("car 1 stands in the way", 10, () -> y.carOf(1, 4));
+        answers(y, 4, 0, new int[] {2, 24, 4, 300, 24});
+        Check.due("leastBrake", 0, () -> y.leastBrake(4));
+        Check.due("heat stays", 28, () -> y.carOf(0, 5));
     }
 
     private static OreRailway track(int[] grades) {
@@ -104,6 +115,16 @@ public final class ForesightTest {
         x.grade(29, 9);
         // Too fast is no harm for ore of which no half can be spilled.
         Check.due("leastBrake(1)", 0, () -> x.leastBrake(1));
+        // Brake 9 enters section 1 with the speed 4, and keeps it, hot or not; the others are faster.
+        OreRailway w = track(new int[] {9, 8, 8, 8});
+        for (int section = 4; section < 30; section++) {
+            w.grade(section, 3);
+        }
+        w.spring(1, 5);
+        Check.due("leastBrake(5)", 9, () -> w.leastBrake(5));
+        Check.due("ticks with brake 9", 77, () -> w.ifAlone(5, 9, 1));
+        Check.due("brake 8 runs away", 3, () -> w.ifAlone(5, 8, 0));
+        Check.due("its greatest speed", 6, () -> w.ifAlone(5, 8, 4));
         OreRailway y = track(IN_200);
         y.spring(29, 8);
         Check.due("brake 0 runs away", 3, () -> y.ifAlone(4, 0, 0));
@@ -148,6 +169,10 @@ public final class ForesightTest {
         x.run(60);
         Check.due("on runaway tracks before", 6, () -> x.ifRun(1, 2));
         Check.due("ticks pass on trial only", 85, () -> x.count(0));
+        OreRailway y = new OreRailway();
+        Check.type(y, "n;n;r1/0;t4;b1/9;t1;r0/0");
+        y.execute();
+        Check.due("bumps of car 0", 3, () -> y.ifRun(3, 3));
     }
 
     private static void meanSpeeds() {

@@ -186,8 +186,8 @@ public final class OrderTextTest {
     private static void everyOrder() {
         OreRailway x = new OreRailway();
         x.set(2, 4);
-        Check.type(x, "n;l0+4;r0/9;b0/0;t24;m0;t60;r0/7");
-        Check.due("eight orders", 8, x::execute);
+        Check.type(x, "n;l0+4;r0/9;b0/0;b0/0;b0/1;b0/0;t24;m0;t60;r0/7");
+        Check.due("eleven orders", 11, x::execute);
         Check.due("delivered", 4, () -> x.carOf(0, 7));
         Check.due("rolling again", 1, () -> x.carOf(0, 0));
         Check.due("brake", 7, () -> x.carOf(0, 2));

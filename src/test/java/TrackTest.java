@@ -68,6 +68,7 @@ public final class TrackTest {
         OreRailway x = new OreRailway();
         Check.due("spring(1, 1)", 0, () -> x.spring(1, 1));
         Check.due("spring(29, 40)", 0, () -> x.spring(29, 40));
+        Check.due("switches with the least and the greatest limit", 2, () -> x.count(2));
         Check.due("spring(1, 7)", 1, () -> x.spring(1, 7));
         Check.due("limit of 1", 7, () -> x.section(1, 1));
         Check.due("limit of 29", 40, () -> x.section(29, 1));
