@@ -402,18 +402,21 @@ public final class OreRailway {
     }
 
     private boolean performOn(int car, char kind, int number) {
-        switch (kind) {
-            case 'l':
-                return now.canLoad(car, number) && now.addOre(car, number) > 0;
-            case 'r':
-                return now.letRoll(car, number) == 0;
-            case 'b':
-                return now.isRolling(car) && now.changeBrake(car, number) >= 0;
-            case 'm':
-                return now.harnessMule(car) == 0;
-            default:
-                return false;
+        if (kind == 'r') {
+            return now.letRoll(car, number) == 0;
         }
+        if (kind == 'm') {
+            return now.harnessMule(car) == 0;
+        }
+        if (kind == 'l' && now.canLoad(car, number)) {
+            now.addOre(car, number);
+            return true;
+        }
+        if (kind == 'b' && now.isRolling(car)) {
+            now.changeBrake(car, number);
+            return true;
+        }
+        return false;
     }
 
     /** Lets one car come down in the trial state; returns the number of ticks that pass. */

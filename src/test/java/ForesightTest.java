@@ -74,7 +74,16 @@ public final class ForesightTest {
         Check.due("car 0 was fast", 34, () -> y.carOf(0, 9));
         Check.due("car 1 stands in the way", 10, () -> y.carOf(1, 4));
         answers(y, 4, 0, new int[] {2, 24, 4, 300, 24});
-        Check.due("leastBrake", 0, () -> y.leastBrake(4));
+        OreRailway empty = new OreRailway();
+        for (int ore = 0; ore <= 20; ore++) {
+            for (int brake = 0; brake <= 9; brake++) {
+                for (int what = 0; what <= 4; what++) {
+                    Check.holds("as on an empty track",
+                            y.ifAlone(ore, brake, what) == empty.ifAlone(ore, brake, what));
+                }
+            }
+            Check.holds("least as on an empty track", y.leastBrake(ore) == empty.leastBrake(ore));
+        }
         Check.due("heat stays", 28, () -> y.carOf(0, 5));
     }
 

@@ -193,8 +193,8 @@ public final class OrderTextTest {
         Check.due("brake", 7, () -> x.carOf(0, 2));
         Check.due("tick", 84, () -> x.count(0));
         OreRailway y = new OreRailway();
-        Check.type(y, "n;l0+12;l0+8");
-        Check.due("three orders", 3, y::execute);
+        Check.type(y, "n;l0+1;l0+12;l0+7;n");
+        Check.due("five orders", 5, y::execute);
         Check.due("ore", 20, () -> y.carOf(0, 1));
     }
 }

@@ -114,11 +114,12 @@ public final class UndoTest {
     /** Six calls that are saved. */
     private static void change(OreRailway x) {
         x.grade(4, 9);
-        x.spring(7, 3);
+        x.spring(12, 0);
         x.set(0, 1);
         x.run(60);
-        Check.type(x, "r0/5;n;l3+20;m1;t60;r3/2;t30");
+        Check.type(x, "l0+5;r0/0;n;l3+20;t60;m1;t60");
         x.execute();
         x.run(60);
+        Check.due("car 0 delivered more", 12, () -> x.carOf(0, 7));
     }
 }
