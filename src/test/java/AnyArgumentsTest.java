@@ -7,8 +7,9 @@ import java.util.Set;
 
 /** LANGUAGE.md, rules 6 and 7, and "A call that throws an exception changes nothing". */
 public final class AnyArgumentsTest {
-    private static final int RUNS = 150;
-    private static final int CALLS = 512;
+    private static final int RUNS = 5000;
+    /** With those of a view it stays at less than 512 calls on an object. */
+    private static final int CALLS = 200;
     private static final int[] EDGES = {Integer.MIN_VALUE, Integer.MIN_VALUE + 1, -2, -1, 0, 1, 2,
         3, 4, 5, 6, 7, 8, 9, 10, 13, 14, 19, 20, 21, 29, 30, 31, 32, 33, 40, 41, 59, 60, 61, 62,
         63, 64, 65, 110, 126, 127, 200, 201, 65536, Integer.MAX_VALUE - 1, Integer.MAX_VALUE};
@@ -24,39 +25,45 @@ public final class AnyArgumentsTest {
             NAMED.put(method.getName(), names);
         }
         for (int run = 0; run < RUNS; run++) {
-            play(new Random(run));
+            play(run);
         }
         Check.end();
     }
 
-    private static void play(Random random) {
+    /** Two objects with the same calls; then one of them gets another call. */
+    private static void play(int seed) {
         OreRailway x = new OreRailway();
-        for (int car = random.nextInt(9); car > 0; car--) {
-            x.car();
-        }
-        for (int call = 0; call < CALLS; call++) {
-            String name = Caller.NAMES[random.nextInt(Caller.NAMES.length)];
-            String before = Check.everythingOf(x);
-            int a = EDGES[random.nextInt(EDGES.length)];
-            int b = EDGES[random.nextInt(EDGES.length)];
-            int c = EDGES[random.nextInt(EDGES.length)];
-            String answer = Caller.call(x, name, a, b, c);
-            if (answer.contains("Exception")) {
-                Check.holds(name + " " + a + " " + b + " " + c + " threw " + answer,
-                        NAMED.get(name).contains(answer));
-                Check.holds(name + " throws and changes", before.equals(Check.everythingOf(x)));
-            } else if (isQuery(name)) {
-                Check.holds(name + " changes", before.equals(Check.everythingOf(x)));
-            }
+        OreRailway y = new OreRailway();
+        playCalls(x, new Random(seed));
+        Random random = new Random(seed);
+        playCalls(y, random);
+        String name = Caller.NAMES[random.nextInt(Caller.NAMES.length)];
+        int a = edge(random);
+        int b = edge(random);
+        int c = edge(random);
+        String answer = Caller.call(x, name, a, b, c);
+        String call = name + " " + a + " " + b + " " + c + " answered " + answer;
+        boolean threw = answer.contains("Exception");
+        Check.holds(call, !threw || NAMED.get(name).contains(answer));
+        if (threw || Caller.isQuery(name)) {
+            Check.holds(call + " and changed something", View.ofAll(x).equals(View.ofAll(y)));
         }
     }
 
-    private static boolean isQuery(String name) {
-        for (int i = Caller.FIRST_QUERY; i < Caller.NAMES.length; i++) {
-            if (Caller.NAMES[i].equals(name)) {
-                return true;
-            }
+    /** Some cars, and then calls with any arguments; each may throw only what is named. */
+    private static void playCalls(OreRailway x, Random random) {
+        for (int car = random.nextInt(9); car > 0; car--) {
+            x.car();
         }
-        return false;
+        for (int call = random.nextInt(CALLS); call > 0; call--) {
+            String name = Caller.NAMES[random.nextInt(Caller.NAMES.length)];
+            String answer = Caller.call(x, name, edge(random), edge(random), edge(random));
+            Check.holds(name + " answered " + answer,
+                    !answer.contains("Exception") || NAMED.get(name).contains(answer));
+        }
+    }
+
+    private static int edge(Random random) {
+        return EDGES[random.nextInt(EDGES.length)];
     }
 }

@@ -1,3 +1,6 @@
+import java.util.Arrays;
+import java.util.List;
+
 /** Calls the program by a method's name; the answer, or the exception's name, as a text. */
 final class Caller {
     /** The methods that change something, then those that do not. */
@@ -6,7 +9,9 @@ final class Caller {
         "firstError", "section", "carOf", "cars", "rolling", "count", "refusal", "ifAlone",
         "leastBrake", "ifRun", "meanSpeed"};
     /** The index of the first name of a method that changes nothing. */
-    static final int FIRST_QUERY = 15;
+    private static final int FIRST_QUERY = 15;
+    private static final List<String> NOT_UNDOABLE =
+            List.of("append", "clearBuffer", "undo", "keep");
 
     private Caller() {
     }
@@ -18,10 +23,23 @@ final class Caller {
             }
             return "" + answer(x, name, a, b, c);
         } catch (RuntimeException e) {
-            // A machine's own exception shows by its class, or by where it was thrown.
-            String thrower = e.getStackTrace()[0].getMethodName();
-            return e.getClass().getSimpleName() + (thrower.startsWith("require") ? "" : " by itself");
+            // A machine's own exception shows by its class, a library's by where it was thrown.
+            return e.getClass().getSimpleName() + (isOwn(e) ? "" : " by itself");
         }
+    }
+
+    private static boolean isOwn(RuntimeException e) {
+        StackTraceElement[] trace = e.getStackTrace();
+        return trace.length > 0 && trace[0].getClassName().split("\\$")[0].equals("OreRailway");
+    }
+
+    static boolean isQuery(String name) {
+        return Arrays.asList(NAMES).indexOf(name) >= FIRST_QUERY;
+    }
+
+    /** Whether the document marks the method so. */
+    static boolean isUndoable(String name) {
+        return !isQuery(name) && !NOT_UNDOABLE.contains(name);
     }
 
     private static int answer(OreRailway x, String name, int a, int b, int c) {

@@ -57,36 +57,6 @@ final class Check {
         }
     }
 
-    /** All that the queries tell, but for the buffer and the saved states. */
-    static String stateOf(OreRailway railway) {
-        StringBuilder all = new StringBuilder();
-        for (int what = 0; what <= 13; what++) {
-            if (what != 9 && what != 10) {
-                all.append(railway.count(what)).append(' ');
-            }
-        }
-        for (int section = 0; section < 30; section++) {
-            for (int what = 0; what <= 4; what++) {
-                all.append(railway.section(section, what)).append(' ');
-            }
-        }
-        for (int car = 0; car < railway.count(1); car++) {
-            for (int what = 0; what <= 9; what++) {
-                all.append(railway.carOf(car, what)).append(' ');
-            }
-        }
-        for (int state = 0; state <= 4; state++) {
-            all.append(railway.cars(state)).append(' ');
-        }
-        return all.toString();
-    }
-
-    /** All that the queries tell. */
-    static String everythingOf(OreRailway railway) {
-        return stateOf(railway) + railway.count(9) + ' ' + railway.count(10) + ' '
-                + railway.firstError();
-    }
-
     static void end() {
         System.out.println(checks + " checks, " + wrong + " wrong");
         if (wrong != 0) {

@@ -5,6 +5,10 @@ public final class ForesightTest {
     private static final int[] IN_201 = {3, 1, 5, 0, 0, 0, 3, 1, 0, 1, 0, 0, 1, 1, 1, 1, 1, 1,
         1, 1};
 
+    /** A car that did much before, and one that stands in the way. */
+    private static final String OTHERS =
+            "n;n;l0+9;r0/0;t17;m0;t50;l0+15;r0/2;t9;r1/0;t4;b1/9;t1";
+
     public static void main(String[] args) {
         arguments();
         alone();
@@ -65,26 +69,33 @@ public final class ForesightTest {
         x.grade(0, 2);
         answers(x, 4, 0, new int[] {1, 200, 0, 0, 0});
         answers(x, 5, 0, new int[] {2, 19, 3, 300, 34});
-        // Cars that did much before, and cars that stand in the way.
         OreRailway y = new OreRailway();
-        Check.type(y, "n;n;l0+9;r0/0;t17;m0;t50;l0+15;r0/2;t9;r1/0;t4;b1/9;t1");
+        Check.type(y, OTHERS);
         y.execute();
         Check.due("car 0 has heat", 28, () -> y.carOf(0, 5));
         Check.due("car 0 delivered", 5, () -> y.carOf(0, 7));
         Check.due("car 0 was fast", 34, () -> y.carOf(0, 9));
         Check.due("car 1 stands in the way", 10, () -> y.carOf(1, 4));
         answers(y, 4, 0, new int[] {2, 24, 4, 300, 24});
-        OreRailway empty = new OreRailway();
-        for (int ore = 0; ore <= 20; ore++) {
-            for (int brake = 0; brake <= 9; brake++) {
-                for (int what = 0; what <= 4; what++) {
-                    Check.holds("as on an empty track",
-                            y.ifAlone(ore, brake, what) == empty.ifAlone(ore, brake, what));
-                }
-            }
-            Check.holds("least as on an empty track", y.leastBrake(ore) == empty.leastBrake(ore));
-        }
         Check.due("heat stays", 28, () -> y.carOf(0, 5));
+        for (int ore = 0; ore <= 20; ore++) {
+            asOnEmptyTrack(ore);
+        }
+    }
+
+    /** Each ore has objects of its own: an object is used for at most 512 calls. */
+    private static void asOnEmptyTrack(int ore) {
+        OreRailway empty = new OreRailway();
+        OreRailway y = new OreRailway();
+        Check.type(y, OTHERS);
+        y.execute();
+        for (int brake = 0; brake <= 9; brake++) {
+            for (int what = 0; what <= 4; what++) {
+                Check.holds("as on an empty track",
+                        y.ifAlone(ore, brake, what) == empty.ifAlone(ore, brake, what));
+            }
+        }
+        Check.holds("least as on an empty track", y.leastBrake(ore) == empty.leastBrake(ore));
     }
 
     private static OreRailway track(int[] grades) {

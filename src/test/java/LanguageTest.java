@@ -44,6 +44,6 @@ public final class LanguageTest {
                 start = -1;
             }
         }
-        Check.holds("methods seen: " + methods, methods > 60);
+        Check.holds("methods seen: " + methods, methods > 26);
     }
 }

@@ -4,19 +4,26 @@ import java.util.TreeMap;
 
 /** All promises: long runs of calls, the same each time, each answer compared with the model's. */
 public final class ModelTest {
-    private static final int RUNS = 120;
-    private static final int CALLS = 300;
+    private static final int RUNS = 10000;
+    /** An object is used for at most 512 calls; all queries together are fewer than 300. */
+    private static final int CALLS = 190;
+
+    private static final int NEW = 0;
+    private static final int STEEP = 1;
 
     private final Random random;
     private final OreRailway program = new OreRailway();
     private final Model model = new Model();
     private final TreeMap<String, Integer> seen;
     private final int run;
+    private final int kind;
+    private int calls = 0;
 
     private ModelTest(int run, TreeMap<String, Integer> seen) {
         this.run = run;
         this.random = new Random(run);
         this.seen = seen;
+        this.kind = random.nextInt(3);
     }
 
     public static void main(String[] args) {
@@ -34,29 +41,47 @@ public final class ModelTest {
     }
 
     private void play() {
-        for (int call = 0; call < CALLS; call++) {
-            switch (random.nextInt(9)) {
-                case 0:
-                    orderText();
-                    break;
-                case 1:
-                    compare(Caller.NAMES[random.nextInt(Caller.NAMES.length)], wild(), wild(),
-                            wild());
-                    break;
-                case 2:
-                    track();
-                    break;
-                case 3:
-                    foresee();
-                    break;
-                case 4:
-                    compare("run", 1 + random.nextInt(random.nextInt(60) + 1), 0, 0);
-                    break;
-                default:
-                    cars();
+        int end = CALLS - random.nextInt(CALLS * 2 / 3);
+        prepare();
+        while (calls < end) {
+            int choice = random.nextInt(40);
+            if (choice == 0) {
+                orderText();
+            } else if (choice < 3) {
+                compare(Caller.NAMES[random.nextInt(Caller.NAMES.length)], wild(), wild(), wild());
+            } else if (choice < 5) {
+                track();
+            } else if (choice < 7) {
+                foresee();
+            } else if (choice < 15) {
+                compare("run", 1 + random.nextInt(random.nextInt(60) + 1), 0, 0);
+            } else if (choice < 19) {
+                query();
+            } else {
+                cars();
             }
-            compareAll();
         }
+        compare("set", 2, random.nextInt(3), 0);
+        compare("run", 1, 0, 0);
+        compareAll();
+    }
+
+    /** Most runs begin with some loaded cars, on a track that is steep, flat or like a new one. */
+    private void prepare() {
+        int cars = random.nextInt(run % 8 + 2);
+        for (int car = 0; car < cars; car++) {
+            compare("car", 0, 0, 0);
+            compare("load", car, 1 + random.nextInt(20), 0);
+        }
+        for (int section = 0; section < 30 && kind != NEW; section++) {
+            compare("grade", section, random.nextInt(4) + (kind == STEEP ? 6 : 0), 0);
+        }
+        if (random.nextBoolean()) {
+            compare("spring", 1 + random.nextInt(29), 1 + random.nextInt(20), 0);
+        }
+        compare("set", 0, random.nextInt(kind == STEEP ? 6 : 3), 0);
+        compare("set", 1, random.nextInt(21), 0);
+        compare("set", 2, random.nextInt(5), 0);
     }
 
     private int wild() {
@@ -65,31 +90,43 @@ public final class ModelTest {
 
     private void cars() {
         int car = random.nextInt(run % 8 + 1);
-        switch (random.nextInt(10)) {
+        switch (random.nextInt(24)) {
             case 0:
                 compare("car", 0, 0, 0);
                 break;
             case 1:
+            case 2:
                 compare("load", car, 1 + random.nextInt(20), 0);
                 break;
-            case 2:
+            case 3:
+            case 4:
+            case 5:
                 compare("brake", car, random.nextInt(10), 0);
                 break;
-            case 3:
+            case 6:
+            case 7:
+            case 8:
+            case 9:
                 compare("pull", car, 0, 0);
                 break;
-            case 4:
+            case 10:
                 compare(random.nextBoolean() ? "undo" : "goBack", random.nextInt(2), 0, 0);
                 break;
-            case 5:
+            case 11:
                 compare("keep", random.nextInt(2), 0, 0);
                 break;
-            case 6:
+            case 12:
+            case 13:
+            case 14:
                 compare("run", 1 + random.nextInt(6), 0, 0);
                 break;
             default:
-                compare("release", car, random.nextInt(random.nextInt(10) + 1), 0);
+                compare("release", car, mostlyLow() + (kind == STEEP ? 5 : 0), 0);
         }
+    }
+
+    private int mostlyLow() {
+        return random.nextInt(random.nextInt(6) + 1);
     }
 
     private void track() {
@@ -106,17 +143,33 @@ public final class ModelTest {
         }
     }
 
-    private void foresee() {
-        int ore = random.nextInt(21);
-        int brake = random.nextInt(10);
-        int ticks = 1 + random.nextInt(200);
-        for (int what = 0; what <= 4; what++) {
-            String answer = compare("ifAlone", ore, brake, what);
-            if (what == 0 && answer.equals("1")) {
-                see("still rolling");
-            }
-            compare("ifRun", ticks, what, 0);
+    private void query() {
+        switch (random.nextInt(5)) {
+            case 0:
+                compare("count", random.nextInt(14), 0, 0);
+                break;
+            case 1:
+                compare("section", random.nextInt(30), random.nextInt(5), 0);
+                break;
+            case 2:
+                compare("rolling", random.nextInt(4), 0, 0);
+                break;
+            case 3:
+                compare("refusal", random.nextInt(run % 8 + 1), random.nextInt(2), 0);
+                break;
+            default:
+                compare("carOf", random.nextInt(run % 8 + 1), random.nextInt(10), 0);
         }
+    }
+
+    private void foresee() {
+        int what = random.nextInt(5);
+        int ore = random.nextInt(21);
+        String answer = compare("ifAlone", ore, random.nextInt(10), what);
+        if (what == 0 && answer.equals("1")) {
+            see("still rolling");
+        }
+        compare("ifRun", 1 + random.nextInt(200), random.nextInt(5), 0);
         compare("leastBrake", ore, 0, 0);
     }
 
@@ -124,9 +177,8 @@ public final class ModelTest {
         int signs = random.nextInt(8);
         if (signs == 0) {
             String alphabet = "nlrbmt;+/0123456789x";
-            for (int i = random.nextInt(70); i >= 0; i--) {
+            for (int i = random.nextInt(20); i >= 0; i--) {
                 compare("append", alphabet.charAt(random.nextInt(alphabet.length())), 0, 0);
-                compare("firstError", 0, 0, 0);
             }
         } else {
             compare("clearBuffer", 0, 0, 0);
@@ -157,6 +209,7 @@ public final class ModelTest {
     }
 
     private String compare(String name, int a, int b, int c) {
+        calls++;
         String want = model.call(name, a, b, c);
         String got = Caller.call(program, name, a, b, c);
         Check.holds("run " + run + ": " + name + Arrays.toString(new int[] {a, b, c})
@@ -173,18 +226,17 @@ public final class ModelTest {
                 compare("section", section, what, 0);
             }
         }
-        for (int car = 0; car <= 8; car++) {
+        for (int car = 0; car < due("count", 1, 0); car++) {
             for (int what = 0; what <= 9; what++) {
                 compare("carOf", car, what, 0);
             }
             compare("rolling", car, 0, 0);
-            compare("refusal", car, 0, 0);
-            compare("refusal", car, 1, 0);
         }
         for (int state = 0; state <= 4; state++) {
             compare("cars", state, 0, 0);
         }
         compare("meanSpeed", 0, 0, 0);
+        Check.holds("at most 512 calls, but " + calls, calls <= 512);
         lookAround();
     }
 
@@ -192,20 +244,25 @@ public final class ModelTest {
         seen.merge(what, 1, Integer::sum);
     }
 
+    /** What the runs came to, by the model, so that it takes no calls of the program. */
     private void lookAround() {
-        seeIf("runaway", program.cars(3) != 0);
-        seeIf("mill", program.cars(2) != 0);
-        seeIf("pulled", program.cars(4) != 0);
-        seeIf("spilled", program.count(5) > 0);
-        seeIf("refused", program.count(8) > 0);
-        seeIf("too few mules", Integer.bitCount(program.cars(4)) > program.count(13));
+        seeIf("runaway", due("cars", 3, 0) != 0);
+        seeIf("mill", due("cars", 2, 0) != 0);
+        seeIf("pulled", due("cars", 4, 0) != 0);
+        seeIf("spilled", due("count", 5, 0) > 0);
+        seeIf("refused", due("count", 8, 0) > 0);
+        seeIf("too few mules", Integer.bitCount(due("cars", 4, 0)) > due("count", 13, 0));
         for (int section = 0; section < 30; section++) {
-            seeIf("several on a track", Integer.bitCount(program.section(section, 3)) > 1);
+            seeIf("several on a track", Integer.bitCount(due("section", section, 3)) > 1);
         }
-        for (int car = 0; car < program.count(1); car++) {
-            seeIf("bump", program.carOf(car, 8) > 0);
-            seeIf("hot", program.carOf(car, 5) > 100);
+        for (int car = 0; car < due("count", 1, 0); car++) {
+            seeIf("bump", due("carOf", car, 8) > 0);
+            seeIf("hot", due("carOf", car, 5) > 100);
         }
+    }
+
+    private int due(String name, int a, int b) {
+        return Integer.parseInt(model.call(name, a, b, 0));
     }
 
     private void seeIf(String what, boolean holds) {

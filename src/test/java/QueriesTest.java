@@ -1,35 +1,10 @@
 /** Promises 18 to 23: section, carOf, cars, rolling, count, refusal. */
 public final class QueriesTest {
     public static void main(String[] args) {
-        arguments();
         severalCars();
         accounts();
         refusals();
-        nothingChanges();
         Check.end();
-    }
-
-    private static void arguments() {
-        OreRailway x = new OreRailway();
-        x.car();
-        Check.refuses("section(-1, 0)", IndexOutOfBoundsException.class, () -> x.section(-1, 0));
-        Check.refuses("section(30, 5)", IndexOutOfBoundsException.class, () -> x.section(30, 5));
-        Check.refuses("section(0, -1)", IllegalArgumentException.class, () -> x.section(0, -1));
-        Check.refuses("section(29, 5)", IllegalArgumentException.class, () -> x.section(29, 5));
-        Check.refuses("carOf(-1, 0)", IndexOutOfBoundsException.class, () -> x.carOf(-1, 0));
-        Check.refuses("carOf(1, 10)", IndexOutOfBoundsException.class, () -> x.carOf(1, 10));
-        Check.refuses("carOf(0, 10)", IllegalArgumentException.class, () -> x.carOf(0, 10));
-        Check.refuses("carOf(0, -1)", IllegalArgumentException.class, () -> x.carOf(0, -1));
-        Check.refuses("cars(-1)", IllegalArgumentException.class, () -> x.cars(-1));
-        Check.refuses("cars(5)", IllegalArgumentException.class, () -> x.cars(5));
-        Check.refuses("rolling(-1)", IllegalArgumentException.class, () -> x.rolling(-1));
-        Check.due("rolling(99)", OreRailway.NONE, () -> x.rolling(Integer.MAX_VALUE));
-        Check.refuses("count(-1)", IllegalArgumentException.class, () -> x.count(-1));
-        Check.refuses("count(14)", IllegalArgumentException.class, () -> x.count(14));
-        Check.refuses("refusal(1, true)", IndexOutOfBoundsException.class,
-                () -> x.refusal(1, true));
-        Check.refuses("refusal(-1, false)", IndexOutOfBoundsException.class,
-                () -> x.refusal(-1, false));
     }
 
     private static void severalCars() {
@@ -119,25 +94,5 @@ public final class QueriesTest {
         x.pull(0);
         Check.due("pulling a pulled car", 1, () -> x.refusal(0, false));
         Check.due("releasing a pulled car", 1, () -> x.refusal(0, true));
-    }
-
-    private static void nothingChanges() {
-        OreRailway x = new OreRailway();
-        Check.type(x, "n;n;l0+9;r0/0;t6;r1/2;t3");
-        x.execute();
-        Check.type(x, "t6;x");
-        String before = Check.everythingOf(x);
-        x.rolling(0);
-        x.meanSpeed();
-        x.leastBrake(20);
-        for (int what = 0; what <= 4; what++) {
-            x.ifRun(200, what);
-            x.ifAlone(20, 3, what);
-        }
-        x.refusal(0, true);
-        x.refusal(0, false);
-        Check.holds("queries change nothing", before.equals(Check.everythingOf(x)));
-        x.undo();
-        Check.due("they save nothing", 0, () -> x.count(9));
     }
 }

@@ -4,7 +4,6 @@ public final class UndoTest {
         undoing();
         droppingTheOldest();
         snapshots();
-        wholeState();
         Check.end();
     }
 
@@ -77,49 +76,5 @@ public final class UndoTest {
         }
         Check.refuses("no more", IllegalStateException.class, x::undo);
         Check.due("undo leaves the snapshots", 7, () -> x.goBack(1));
-    }
-
-    /** Everything but the buffer, the saved states and the snapshots comes back. */
-    private static void wholeState() {
-        OreRailway x = new OreRailway();
-        String fresh = Check.stateOf(x);
-        x.keep(1);
-        Check.type(x, "n;n;n;l0+9;r0/1;t60;m0;t5;l1+8;r1/1;t9;l2+5;r2/1;t5");
-        Check.due("fourteen orders", 14, x::execute);
-        x.spring(12, 1);
-        x.run(1);
-        String before = Check.stateOf(x);
-        Check.due("delivered", 9, () -> x.carOf(0, 7));
-        Check.due("car 0 is pulled", 4, () -> x.carOf(0, 0));
-        Check.due("car 1 ran away", 1, () -> x.section(12, 4));
-        Check.holds("car 2 is rolling and warm",
-                x.carOf(2, 0) == 1 && x.carOf(2, 3) > 0 && x.carOf(2, 5) > 0);
-        x.keep(0);
-        change(x);
-        Check.holds("it has changed", !before.equals(Check.stateOf(x)));
-        for (int i = 0; i < 6; i++) {
-            x.undo();
-        }
-        Check.holds("undo restores all", before.equals(Check.stateOf(x)));
-        x.goBack(1);
-        Check.holds("the first snapshot has nothing of it", fresh.equals(Check.stateOf(x)));
-        x.goBack(0);
-        Check.holds("goBack restores all", before.equals(Check.stateOf(x)));
-        x.undo();
-        Check.holds("undo of goBack", fresh.equals(Check.stateOf(x)));
-        x.undo();
-        Check.holds("undo of the first goBack", before.equals(Check.stateOf(x)));
-    }
-
-    /** Six calls that are saved. */
-    private static void change(OreRailway x) {
-        x.grade(4, 9);
-        x.spring(12, 0);
-        x.set(0, 1);
-        x.run(60);
-        Check.type(x, "l0+5;r0/0;n;l3+20;t60;m1;t60");
-        x.execute();
-        x.run(60);
-        Check.due("car 0 delivered more", 12, () -> x.carOf(0, 7));
     }
 }
