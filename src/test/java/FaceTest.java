@@ -57,6 +57,7 @@ public final class FaceTest {
         methods();
         fields();
         names();
+        sizes();
         Check.end();
     }
 
@@ -105,7 +106,7 @@ public final class FaceTest {
         }
     }
 
-    /** LANGUAGE.md, rules 1 and 11, for the classes inside too. */
+    /** LANGUAGE.md, rule 1, for the classes inside too, and how many these are. */
     private static void names() {
         Set<String> publicNames = new HashSet<>();
         for (Method method : OreRailway.class.getDeclaredMethods()) {
@@ -124,6 +125,23 @@ public final class FaceTest {
             for (Method method : inside.getDeclaredMethods()) {
                 Check.holds(method + " bears a name of its own",
                         !publicNames.contains(method.getName()));
+            }
+        }
+    }
+
+    /** LANGUAGE.md, rule 11. */
+    private static void sizes() {
+        List<Class<?>> all = new ArrayList<>();
+        all.add(OreRailway.class);
+        all.addAll(Arrays.asList(OreRailway.class.getDeclaredClasses()));
+        for (Class<?> each : all) {
+            int fields = 0;
+            for (Field field : each.getDeclaredFields()) {
+                fields += Modifier.isStatic(field.getModifiers()) ? 0 : 1;
+            }
+            Check.holds(each + " has " + fields + " fields", fields <= 20);
+            for (Method method : each.getDeclaredMethods()) {
+                Check.holds(method + " has too many parameters", method.getParameterCount() <= 7);
             }
         }
     }
